@@ -34,8 +34,6 @@ public final class SmokedLetters {
     private static final int EMPTY_LETTER = 1;
     private static final int MAX_LETTER = 322101;
 
-    private static final int CLERK = 0, NUN = 1, NEPHEW = 2, ABBESS = 3, FORGER = 4, GULL = 5;
-
     private final Text text = new Text();
     private Island told = new Island();
     /** A text is read into this one, so that a fault leaves what was told as it is. */
@@ -388,10 +386,25 @@ public final class SmokedLetters {
     // ---- kinds, images
 
     public int rate(int kind, int k) {
-        if (kind < CLERK || kind > GULL || !told.hasClerk(k)) {
+        if (!told.hasClerk(k)) {
             return NO;
         }
-        return rateAs(kind, k, 0);
+        switch (kind) {
+            case 0:
+                return asClerk(k);
+            case 1:
+                return asNun(k);
+            case 2:
+                return asNephew(k);
+            case 3:
+                return asAbbess(k);
+            case 4:
+                return asForger(k);
+            case 5:
+                return asGull(k);
+            default:
+                return NO;
+        }
     }
 
     public int keep(int image) {
@@ -512,7 +525,7 @@ public final class SmokedLetters {
     /** How many clerks the shortest row has; clerkRow has them then. */
     private int fewestClerks(int letter) {
         for (int clerks = 0; clerks <= told.clerks; clerks++) {
-            if (canMake(letter, 0, 0, clerks)) {
+            if (canMake(told, clerkRow, letter, present.letter, 0, clerks)) {
                 return clerks;
             }
         }
@@ -520,46 +533,59 @@ public final class SmokedLetters {
     }
 
     /** Tries clerks by their numbers, so that the first row found is the first of its length. */
-    private boolean canMake(int letter, int used, int depth, int clerks) {
-        if (depth >= clerks || depth >= MAX_CLERKS) {
-            return letter == present.letter;
+    private static boolean canMake(Island told, int[] row, int letter, int wanted, int depth, int clerks) {
+        if (depth >= clerks || depth >= row.length) {
+            return letter == wanted;
         }
         for (int k = 0; k < told.clerks; k++) {
-            if ((used >> k & 1) != 0) {
+            if (standsAhead(row, depth, k)) {
                 continue;
             }
-            clerkRow[depth] = k;
-            if (canMake(told.smoked(letter, k), used | 1 << k, depth + 1, clerks)) {
+            row[depth] = k;
+            if (canMake(told, row, told.smoked(letter, k), wanted, depth + 1, clerks)) {
                 return true;
             }
         }
         return false;
     }
 
-    private int rateAs(int kind, int k, int depth) {
-        if (depth > GULL) {
-            return NO;
+    private static boolean standsAhead(int[] row, int depth, int k) {
+        for (int i = 0; i < depth && i < row.length; i++) {
+            if (row[i] == k) {
+                return true;
+            }
         }
-        switch (kind) {
-            case NUN:
-                traced += 10;
-                return rateAs(CLERK, k, depth + 1) + told.mercyFrom[k];
-            case NEPHEW:
-                traced += 100;
-                return rateAs(CLERK, k, depth + 1) - told.mercyTo[k];
-            case ABBESS:
-                traced += 1000;
-                return 2 * rateAs(NUN, k, depth + 1);
-            case FORGER:
-                traced += 10000;
-                return rateAs(NEPHEW, k, depth + 1) + k;
-            case GULL:
-                traced += 100000;
-                return rateAs(CLERK, k, depth + 1) + Integer.bitCount(present.gone);
-            default:
-                traced += 1;
-                return Integer.bitCount(told.burns[k]);
-        }
+        return false;
+    }
+
+    private int asClerk(int k) {
+        traced += 1;
+        return Integer.bitCount(told.burns[k]);
+    }
+
+    private int asNun(int k) {
+        traced += 10;
+        return asClerk(k) + told.mercyFrom[k];
+    }
+
+    private int asNephew(int k) {
+        traced += 100;
+        return asClerk(k) - told.mercyTo[k];
+    }
+
+    private int asAbbess(int k) {
+        traced += 1000;
+        return 2 * asNun(k);
+    }
+
+    private int asForger(int k) {
+        traced += 10000;
+        return asNephew(k) + k;
+    }
+
+    private int asGull(int k) {
+        traced += 100000;
+        return asClerk(k) + Integer.bitCount(present.gone);
     }
 
     private static int lengthOf(int letter) {
