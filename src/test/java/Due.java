@@ -1,3 +1,6 @@
+import java.util.function.Supplier;
+import java.util.function.ToLongFunction;
+
 /** Counts and prints the answers that are not as due, and ends a test. */
 final class Due {
     private int asked = 0;
@@ -13,6 +16,13 @@ final class Due {
 
     void holds(String what, boolean so) {
         is(what, so ? 1 : 0, 1);
+    }
+
+    /** The call answers so, and all that can be looked at is as it was ahead of it. */
+    void changesNothing(String name, Supplier<SmokedLetters> state, ToLongFunction<SmokedLetters> call, long want) {
+        is(name, call.applyAsLong(state.get()), want);
+        String ahead = Looks.behind(state, x -> 0);
+        holds(name + ": nothing changes", Looks.behind(state, call).equals(ahead));
     }
 
     int wrong() {
