@@ -230,11 +230,17 @@ public final class LettersBoundsTest {
             due.is("23: two stay", x.count(6), 2);
         }
         Supplier<SmokedLetters> longer = () -> {
-            SmokedLetters x = browned(2, 1, 2);
+            SmokedLetters x = browned(1, 1, 2);
             x.writes(3);
             return x;
         };
-        due.changesNothing("23: STATE: not as long", longer, x -> x.brown(0), STATE);
+        due.changesNothing("23: STATE: longer than the one", longer, x -> x.brown(0), STATE);
+        Supplier<SmokedLetters> shorter = () -> {
+            SmokedLetters x = browned(1, 1, 2);
+            x.undo();
+            return x;
+        };
+        due.changesNothing("23: STATE: shorter than the one", shorter, x -> x.brown(0), STATE);
         SmokedLetters x = longer.get();
         x.burn();
         due.is("23: any length behind burn()", x.brown(0), 1);
@@ -511,10 +517,16 @@ public final class LettersBoundsTest {
         due.is("28: each once at most, none", x.chain(Due.number(2), -1), 0);
         SmokedLetters twice = with("k0 1 2;k0 2 3;k0 3 1;", 2);
         due.is("28: a row round to it again", twice.chain(Due.number(3), -1), 2);
-        SmokedLetters again = with("k4 1 2;", 2);
+        // By clerk 0 twice 1 would be LOST; the others leave room for rows of more than one.
+        SmokedLetters again = with("k4 1 2;k0 10 10;k0 10 10;", 2);
         again.smokes(0);
-        // By him twice 1 would be LOST.
         due.is("28: the same CLERK twice", again.chain(Due.number(1), -1), NONE);
         due.is("28: once", again.chain(Due.number(2), -1), 1);
+        // 1 becomes 4 by clerk 0, then 5 by clerk 1, which clerk 0 alone would burn.
+        SmokedLetters between = with("k32 1 4;k0 4 5;k0 10 10;", 5);
+        between.smokes(0);
+        due.is("28: the same CLERK twice, another between", between.chain(Due.number(1), -1), NONE);
+        due.is("28: the other one and he", between.chain(Due.number(4), -1), 2);
+        due.is("28: the other one first", between.chain(Due.number(4), 0), 1);
     }
 }

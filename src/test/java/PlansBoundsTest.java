@@ -268,6 +268,11 @@ public final class PlansBoundsTest {
         Due.tell(x, "q2;r2;b3;t0 0;t1 0;");
         due.is("14: VINEGAR, two in a ROW", x.plan(0, NONE), 1 + 2 * 2);
         due.is("14: VINEGAR, one each", x.plan(10, NONE), 3 + 2);
+        // One for two days, two for two, three for one, four till day 10.
+        Due.tell(x, "q4;r1;b5;t0 0;t2 0;t4 0;t5 0;");
+        due.is("14: VINEGAR, one behind another", x.plan(0, NONE), 2 * 1 + 2 * 2 + 1 * 2 + 5 * 3);
+        Due.tell(x, "q2;r1;t9 0;t3 0;t4 0;t10 0;");
+        due.is("14: VINEGAR, two and two, a gap between", x.plan(0, NONE), 1 + 2 * 2 + 1 + 2 * 2);
     }
 
     private static void waitsWithoutSuchThing() {

@@ -2,8 +2,9 @@ import java.util.Random;
 
 /** Runs of calls, the same ones each time, on the class and on NaiveIsland beside it. */
 public final class RandomRunsTest {
-    private static final int RUNS = 1200;
-    private static final int CALLS = 300;
+    private static final int RUNS = 6000;
+    /** An object is used for at most 512 calls; a step and the last look take some of them. */
+    private static final int CALLS = 512, STEP = 20, LAST_LOOK = 40, TEXT = 220;
     private static final Due due = new Due();
 
     private final Random random;
@@ -13,6 +14,7 @@ public final class RandomRunsTest {
     private final StringBuilder log = new StringBuilder();
     /** A long letter makes NaiveIsland slow, so few runs have one. */
     private final int words;
+    private int asked = 0;
 
     private RandomRunsTest(int run) {
         this.run = run;
@@ -29,12 +31,23 @@ public final class RandomRunsTest {
 
     private void go() {
         tellText();
-        for (int i = 0; i < CALLS && due.wrong() == 0; i++) {
+        while (hasRoomFor(STEP + LAST_LOOK) && due.wrong() == 0) {
             step();
         }
+        lookAtAll();
+        due.holds("an object is asked 512 calls at most", asked <= CALLS);
         if (due.wrong() != 0) {
             System.out.println(log);
         }
+    }
+
+    private boolean hasRoomFor(int calls) {
+        return asked + calls <= CALLS;
+    }
+
+    private int count(int what) {
+        asked++;
+        return x.count(what);
     }
 
     private int below(int n) {
@@ -61,7 +74,7 @@ public final class RandomRunsTest {
             same("type(" + letter + ")", x.type(letter), y.type(letter));
         }
         same("island()", x.island(), y.island());
-        if (x.count(7) > 0) {
+        if (count(7) > 0) {
             same("clear()", x.clear(), y.clear());
         }
     }
@@ -115,6 +128,7 @@ public final class RandomRunsTest {
     }
 
     private void same(String call, long got, long want) {
+        asked++;
         log.append(call).append(" = ").append(got).append('\n');
         due.is("run " + run + ": " + call, got, want);
     }
@@ -127,16 +141,16 @@ public final class RandomRunsTest {
             stepLetters();
         } else if (sort < 96) {
             stepAsks();
-        } else if (sort < 97) {
-            tellText();
-        } else {
+        } else if (sort > 96 || !hasRoomFor(TEXT + LAST_LOOK)) {
             stepImages();
+        } else {
+            tellText();
         }
         look();
     }
 
     private void stepDays() {
-        int t = about(x.count(3)), row = about(x.count(1));
+        int t = about(count(3)), row = about(count(1));
         switch (below(5)) {
             case 0:
             case 1:
@@ -157,11 +171,11 @@ public final class RandomRunsTest {
     }
 
     private void stepLetters() {
-        int k = about(x.count(4)), word = about(below(2) == 0 ? 4 : 10);
+        int k = about(count(4)), word = about(below(2) == 0 ? 4 : 10);
         switch (below(8)) {
             case 0:
             case 1:
-                if (x.count(5) < words || below(20) == 0 && words == 5) {
+                if (count(5) < words || below(20) == 0 && words == 5) {
                     same("writes(" + word + ")", x.writes(word), y.writes(word));
                 }
                 break;
@@ -189,12 +203,12 @@ public final class RandomRunsTest {
     }
 
     private void askLetters() {
-        int i = about(x.count(5)), number = 1;
-        for (int w = x.count(5) + (below(6) == 0 ? 1 : 0); w > 0; w--) {
+        int i = about(count(5)), number = 1;
+        for (int w = count(5) + (below(6) == 0 ? 1 : 0); w > 0; w--) {
             number = number * 11 + (below(30) == 0 ? 10 : below(4));
         }
         number = below(30) == 0 ? about(400000) : number;
-        int at = below(5) - 1 - (below(20) == 0 ? 1 : 0), place = noneOr(x.count(5));
+        int at = below(5) - 1 - (below(20) == 0 ? 1 : 0), place = noneOr(count(5));
         same("word(" + i + ")", x.word(i), y.word(i));
         same("stood(" + i + ")", x.stood(i), y.stood(i));
         same("letters(" + place + ")", x.letters(place), y.letters(place));
@@ -203,8 +217,8 @@ public final class RandomRunsTest {
     }
 
     private void stepAsks() {
-        int t = about(x.count(3)), what = about(2), k = about(x.count(4)), n = about(61), sick = about(7);
-        int row = about(x.count(1)), kind = about(6);
+        int t = about(count(3)), what = about(2), k = about(count(4)), n = about(61), sick = about(7);
+        int row = about(count(1)), kind = about(6);
         switch (below(7)) {
             case 0:
                 same("clean(" + row + ", " + what + ")", x.clean(row, what), y.clean(row, what));
@@ -226,7 +240,7 @@ public final class RandomRunsTest {
                 askPlan();
                 break;
             default:
-                if (below(x.count(3) > 4 ? 20 : 4) == 0) {
+                if (below(count(3) > 4 ? 20 : 4) == 0) {
                     askBest();
                 }
                 break;
@@ -234,16 +248,16 @@ public final class RandomRunsTest {
     }
 
     private void askPlan() {
-        int figures = 0, t = noneOr(x.count(3));
-        for (int i = x.count(3); i > 0; i--) {
-            figures = figures * 10 + (below(40) == 0 ? below(10) : below(x.count(1)));
+        int figures = 0, t = noneOr(count(3));
+        for (int i = count(3); i > 0; i--) {
+            figures = figures * 10 + (below(40) == 0 ? below(10) : below(count(1)));
         }
         figures = below(30) == 0 ? about(1000000) : figures;
         same("plan(" + figures + ", " + t + ")", x.plan(figures, t), y.plan(figures, t));
     }
 
     private void askBest() {
-        int n = about(below(2) == 0 ? 90 : 201), t = noneOr(x.count(3));
+        int n = about(below(2) == 0 ? 90 : 201), t = noneOr(count(3));
         same("most(" + n + ", " + t + ")", x.most(n, t), y.most(n, t));
         same("soonest(" + t + ")", x.soonest(t), y.soonest(t));
     }
@@ -257,14 +271,26 @@ public final class RandomRunsTest {
         }
     }
 
-    /** After each call, all that can be looked at. */
+    /** After each step a little of what can be looked at. */
     private void look() {
+        int now = about(6), count = about(8);
+        same("now(" + now + ")", x.now(now), y.now(now));
+        same("count(" + count + ")", x.count(count), y.count(count));
+        int t = about(count(3)), k = about(count(4)), what = about(5);
+        same("traveller(" + t + ", " + what + ")", x.traveller(t, what), y.traveller(t, what));
+        same("clerk(" + k + ", " + what + ")", x.clerk(k, what), y.clerk(k, what));
+    }
+
+    private void lookAtAll() {
         for (int what = -1; what <= 8; what++) {
             same("now(" + what + ")", x.now(what), y.now(what));
             same("count(" + what + ")", x.count(what), y.count(what));
         }
-        int t = about(x.count(3)), k = about(x.count(4)), what = about(5);
-        same("traveller(" + t + ", " + what + ")", x.traveller(t, what), y.traveller(t, what));
-        same("clerk(" + k + ", " + what + ")", x.clerk(k, what), y.clerk(k, what));
+        for (int t = 0; t < 6; t++) {
+            for (int what = 2; what < 5; what++) {
+                same("traveller(" + t + ", " + what + ")", x.traveller(t, what), y.traveller(t, what));
+            }
+        }
+        same("trace()", x.trace(), y.trace());
     }
 }
