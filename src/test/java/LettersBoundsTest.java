@@ -423,6 +423,7 @@ public final class LettersBoundsTest {
         for (int letter : NO_LETTERS) {
             asks("27: no LETTER " + letter, x -> x.whose(letter), BAD);
         }
+        asks("27: of a LETTER", x -> x.whose(Due.number(3, 1, 0)), 1);
         due.is("27: of no LETTER there, BAD first", new SmokedLetters().whose(1), BAD);
     }
 
