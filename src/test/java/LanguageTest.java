@@ -106,6 +106,20 @@ public final class LanguageTest {
             }
         }
         shortMethods(source);
+        makesInConstructorsAlone(code);
+    }
+
+    /** A field's first value, or a line of a loop in a constructor that fills an array. */
+    private static void makesInConstructorsAlone(String code) {
+        Pattern field = Pattern.compile(" {4,8}(private |final )+[\\w\\[\\]]+ \\w+ = new .*;|"
+                + " {4}private Island \\w+ = new Island\\(\\);");
+        Pattern filled = Pattern.compile(" {12,16}(images|past)\\[i\\] = new Now\\(\\);");
+        for (String line : code.split("\n")) {
+            if (Pattern.compile("\\bnew\\b").matcher(line).find()) {
+                boolean fine = field.matcher(line).matches() || filled.matcher(line).matches();
+                due.holds("rule 12: no call makes an object, but " + line.trim(), fine);
+            }
+        }
     }
 
     private static void shortMethods(String source) {
